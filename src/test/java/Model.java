@@ -931,6 +931,10 @@ final class Model {
         state(now != null);
     }
 
+    boolean isEmpty() {
+        return now == null;
+    }
+
     private static void state(boolean right) {
         if (!right) {
             throw new IllegalStateException();

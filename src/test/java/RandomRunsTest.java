@@ -12,9 +12,11 @@ public final class RandomRunsTest {
     private static final int RUNS = 400;
     private static final int CALLS = 512;
     private static final String[] CHANGES = {
-        "strike", "strike", "strike", "strike", "press", "press", "type", "setStop", "setMargin", "set", "set", "rest",
-        "newRibbon", "newPage", "undo", "save", "restore"
+        "strike", "strike", "strike", "strike", "strike", "strike", "strike", "strike", "press", "press", "press",
+        "press", "type", "setStop", "setMargin", "set", "set", "set", "rest", "undo", "undo", "save"
     };
+
+    private static final String LINES = "sign darkness lineLength words writeLine writeShades";
 
     private final Random random;
     private final TypebarMachine x = new TypebarMachine();
@@ -60,7 +62,8 @@ public final class RandomRunsTest {
     private void go() throws Exception {
         while (isRight && told.size() < CALLS) {
             int dice = random.nextInt(100);
-            if (told.size() < 2 && random.nextInt(4) > 0 || dice < 1) {
+            boolean hopes = model.isEmpty() && random.nextInt(20) > 0;
+            if (hopes || random.nextInt(120) == 0) {
                 put(machineText());
                 call("load", random.nextInt(20) == 0 ? random.nextInt(520) - 10 : length);
             } else if (dice < 12) {
@@ -144,7 +147,7 @@ public final class RandomRunsTest {
         text.append(";ribbon ").append(5 + random.nextInt(random.nextBoolean() ? 3 : 56)).append(' ');
         text.append(1 + random.nextInt(9)).append(' ').append(random.nextInt(4));
         String letters = random.nextInt(5) == 0 ? "zyxwvutsrqponmlkjihgfedcba" : "abcde";
-        int bars = random.nextInt(letters.length() + 1);
+        int bars = random.nextInt(3) == 0 ? random.nextInt(letters.length() + 1) : letters.length();
         for (int i = 0; i < bars; i++) {
             text.append(random.nextInt(60) == 0 ? "" : ";").append(i % 3 == 0 ? " " : "").append("bar ");
             text.append(letters.charAt(random.nextInt(80) == 0 ? 0 : i)).append(' ');
@@ -190,13 +193,22 @@ public final class RandomRunsTest {
         }
         if (name.equals("strike") || name.equals("wouldBe") || name.equals("freeIn") || name.equals("paceOf")
                 || name.equals("bar") && i == 0) {
-            return random.nextInt(dice < 55 ? 5 : 28);
+            return random.nextInt(dice < 55 && !model.isEmpty() ? model.count(0) + 1 : 28);
         }
         if (name.equals("save") || name.equals("restore")) {
             return random.nextInt(dice < 5 ? 3 : 2);
         }
         if (name.equals("press")) {
-            return dice < 20 ? 5 : random.nextInt(7);
+            return dice < 20 ? 5 : random.nextInt(dice < 55 ? 6 : 7);
+        }
+        if (name.equals("bar") || name.equals("carriage") || name.equals("head") || name.equals("wouldType")) {
+            return random.nextInt(dice < 50 ? 4 : 7);
+        }
+        if (LINES.contains(name) && i == 0 && dice < 55 && !model.isEmpty()) {
+            return random.nextInt(dice < 40 ? model.carriage(0) + 1 : model.setting(1) + 1);
+        }
+        if ((name.equals("sign") || name.equals("darkness")) && dice < 55 && !model.isEmpty()) {
+            return random.nextInt(model.carriage(1) + 1);
         }
         return random.nextInt(dice < 40 ? 13 : 41);
     }
