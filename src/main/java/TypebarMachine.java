@@ -361,9 +361,8 @@ public final class TypebarMachine {
     public int paceFor(int n) throws IllegalStateException, IndexOutOfBoundsException {
         requireLoaded();
         requireBytes(n);
-        trial.copyFrom(now);
         for (int pace = 1; pace <= MOST_TYPING_PACE; pace++) {
-            // Neither the page nor the ribbon makes a key fail, so they need not be copied for each pace.
+            // Neither the page nor the ribbon makes a key fail, so it does not matter what the trial has of them.
             trial.copyMotionFrom(now);
             trial.settings.put(PACE, pace);
             trial.typeText(input, n);
@@ -1135,6 +1134,7 @@ public final class TypebarMachine {
         private int time;
         private int reason;
         private int reasonAt;
+        // Only a trial is asked for it, and sets it ahead, so that it is not kept.
         private int lastShade;
 
         void copyFrom(Machine other) {
@@ -1144,7 +1144,6 @@ public final class TypebarMachine {
             tally.copyFrom(other.tally);
             reason = other.reason;
             reasonAt = other.reasonAt;
-            lastShade = other.lastShade;
         }
 
         void copyMotionFrom(Machine other) {
@@ -1154,8 +1153,8 @@ public final class TypebarMachine {
             time = other.time;
         }
 
+        /** Takes the bars and the tab stops away; a text sets every setting anew. */
         void clear() {
-            settings.fill(0);
             carriage.stops.fill(0);
             bars.clear();
         }
@@ -1171,7 +1170,6 @@ public final class TypebarMachine {
             time = 0;
             reason = 0;
             reasonAt = NONE;
-            lastShade = 0;
         }
 
         private void addTo(int what, int more) {

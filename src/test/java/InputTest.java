@@ -87,6 +87,10 @@ public final class InputTest {
         CHECK.is("3: bar 3", Rig.bar(x, 3), "d 180 14 0 0 0");
         String fresh = Rig.all(x);
 
+        x.wouldType(Rig.feed(x, "abababaabccc"), 0);
+        x.type(0);
+        CHECK.is("3: a trial ahead of the load", Rig.load(x, Rig.PLAIN), 4);
+        CHECK.is("3: it leaves nothing in the machine", Rig.all(x), fresh);
         Rig.type(x, "ab^<<</a!>x");
         x.set(12, 2);
         x.set(5, 1);
@@ -158,6 +162,21 @@ public final class InputTest {
         Rig.feed(cut, HEAD + "3;bar");
         CHECK.is("only n bytes are parsed", cut.load(HEAD.length()), 0);
         CHECK.is("a number ends behind n bytes", cut.setting(11), 1);
+        cutAtEnd(";bar a", "b 5");
+        cutAtEnd(";", "   ");
+        cutAtEnd("; ", "  tab 5");
+        cutAtEnd(";bar", " a 5");
+        cutAtEnd(";bar a ", "5");
+        cutAtEnd(";tab", "5");
+    }
+
+    /** What stands behind the n bytes changes neither the last token nor the position of the error at the end. */
+    private static void cutAtEnd(String end, String behind) {
+        TypebarMachine x = new TypebarMachine();
+        int n = HEAD.length() + end.length();
+        Rig.feed(x, HEAD + end + behind);
+        CHECK.refuses("3: a text that is cut behind " + end, Check.ARGUMENT, () -> x.load(n));
+        CHECK.is("4, 5: a text that is cut behind " + end, x.parseError() + " " + x.errorPosition(), "1 " + n);
     }
 
     private static void good(String text, int bars, String settings) {
@@ -173,6 +192,9 @@ public final class InputTest {
         bad(1, "   @");
         bad(1, "@Machine 12");
         bad(1, "@machin 12");
+        bad(1, "@nachine 12");
+        bad(1, "@maghine 12");
+        bad(1, "@machinf 12");
         bad(1, "@machines 12");
         bad(1, "@12");
         bad(1, "@;");
@@ -229,6 +251,10 @@ public final class InputTest {
         bad(1, HEAD + ";@bars a 5");
         bad(1, HEAD + ";@tabs 5");
         bad(1, HEAD + ";@7");
+        bad(1, HEAD + ";@car a 5");
+        bad(1, HEAD + ";@lab 5");
+        bad(1, HEAD + ";@ba a 5");
+        bad(1, HEAD + ";@tan 5");
         bad(1, HEAD + ";bar@");
         bad(1, HEAD + ";bar  @");
         bad(1, HEAD + ";bar @5");

@@ -369,6 +369,13 @@ public final class KeysTest {
         CHECK.is("and is back, too", slow.strike(1, false), 0);
         slow.press(5);
         CHECK.is("free without a jam brings no bar back", slow.bar(1, 4), 93);
+        TypebarMachine both = Rig.plain();
+        Rig.type(both, "ba");
+        both.set(5, 9);
+        CHECK.is("a bar that was struck before jams", both.strike(1, false), 5);
+        both.press(5);
+        both.set(6, 99);
+        CHECK.is("both are back, by whatever rise", both.bar(0, 4) + both.bar(1, 4), 0);
     }
 
     private static void typing() {

@@ -40,10 +40,31 @@ public final class LooksTest {
             CHECK.refuses("20: no line " + no, Check.INDEX, () -> x.lineLength(no));
             CHECK.refuses("21: no line " + no, Check.INDEX, () -> x.words(no));
         }
+        TypebarMachine first = Rig.plain();
+        Rig.type(first, "^<<a");
+        CHECK.is("20: the column 0 alone", first.lineLength(0), 1);
+        CHECK.is("21: the column 0 alone", first.words(0), 1);
+        CHECK.is("22: the column 0 of the line 0", first.letters('a'), 1);
+        CHECK.is("23: the column 0 of the line 0", first.palest(), 0);
+        CHECK.is("24: the column 0 of the line 0", first.meanDarkness(), 5.0);
+        CHECK.is("49: the column 0 of the line 0", first.newPage(), 1);
         TypebarMachine wide = Rig.loaded("machine 10 2 0 9 0;speed 50 1 0 0;ribbon 5 9 0;bar a 90");
         Rig.type(wide, "aaaaaaaaaa/a");
         CHECK.is("21: a full line does not run on in the next one", wide.words(0) * 10 + wide.words(1), 11);
         CHECK.is("20: a full line", wide.lineLength(0), 10);
+        Rig.type(wide, "aaaaaaaaa");
+        CHECK.is("22: a full page", wide.letters('a'), 20);
+        CHECK.is("24: a full page", wide.meanDarkness(), 9.0);
+        wide.setMargin(true, 8);
+        wide.newRibbon();
+        wide.set(11, 3);
+        CHECK.is("49: a full page", wide.newPage(), 20);
+        Rig.type(wide, "/^>>>aaaaaaaa");
+        CHECK.is("23: the last place of the page is not the palest", wide.palest(), 18);
+        wide.newPage();
+        wide.newRibbon();
+        Rig.type(wide, "aaaaa/^> a");
+        CHECK.is("23: the last place of the page is", wide.palest(), 19);
     }
 
     private static void letters() {

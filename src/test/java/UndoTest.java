@@ -24,7 +24,8 @@ public final class UndoTest {
             () -> x.press(3), () -> x.press(4), () -> x.press(5), () -> Rig.type(x, "c1D>>^ /?"), () -> Rig.type(x, ""),
             () -> x.setStop(3, true), () -> x.setStop(5, false), () -> x.setMargin(true, 9), () -> x.setMargin(false, 0),
             () -> x.set(4, 0), () -> x.set(5, 77), () -> x.set(6, 77), () -> x.set(7, 77), () -> x.set(8, 77),
-            () -> x.set(11, 3), () -> x.set(12, 3), () -> x.rest(9), () -> x.newRibbon(), () -> x.newPage()
+            () -> x.set(11, 3), () -> x.set(12, 3), () -> x.rest(9), () -> x.newRibbon(), () -> x.newPage(),
+            () -> Rig.type(x, "/^<<a<a<a<a<a<a<a<a<a<a")
         };
         for (int i = 0; i < changes.length; i++) {
             String before = Rig.all(x);

@@ -243,8 +243,14 @@ public final class WouldTest {
         TypebarMachine wide = Rig.loaded("machine 40 1 0 39 0;speed 1 1 0 0;ribbon 5 1 0;tab 39");
         wide.press(1);
         CHECK.is("35: the longest way", wide.keysTo(0), 39);
+        wide.press(2);
+        CHECK.is("35: back and forth", wide.keysTo(39), 1);
+        wide.press(0);
         wide.press(0);
         CHECK.is("35: from WIDTH", wide.keysTo(0), 40);
+        TypebarMachine none = Rig.loaded("machine 40 1 0 39 0;speed 1 1 0 0;ribbon 5 1 0");
+        CHECK.is("35: by tab to RIGHT and on", none.keysTo(40), 2);
+        CHECK.is("35: from the column 0", none.keysTo(1), 1);
     }
 
     private static void keys(TypebarMachine x, String due) {
