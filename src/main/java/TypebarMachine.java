@@ -482,18 +482,19 @@ public final class TypebarMachine {
         int low = right ? now.settings.at(LEFT) + apart : 0;
         int high = right ? now.settings.at(WIDTH) - 1 : now.settings.at(RIGHT) - apart;
         requireArgument(column >= low && column <= high);
-        return change(right ? RIGHT : LEFT, column);
+        history.keep(now);
+        return replaceSetting(right ? RIGHT : LEFT, column);
     }
 
     public int set(int what, int value) throws IllegalStateException, IllegalArgumentException {
         requireLoaded();
         requireArgument(isSettable(what));
         requireArgument(value >= lowest(now.settings, what) && value <= highest(now.settings, what));
-        return change(what, value);
+        history.keep(now);
+        return replaceSetting(what, value);
     }
 
-    private int change(int what, int value) {
-        history.keep(now);
+    private int replaceSetting(int what, int value) {
         int previous = now.settings.at(what);
         now.settings.put(what, value);
         return previous;
@@ -909,14 +910,8 @@ public final class TypebarMachine {
             return at >= settings.at(WIDTH) || at > settings.at(RIGHT) && !released;
         }
 
-        private int bellColumn() {
+        int bellColumn() {
             return settings.at(RIGHT) - settings.at(BELL);
-        }
-
-        /** Goes to the next column and tells whether the bell rings there. */
-        boolean advance() {
-            column++;
-            return column == bellColumn();
         }
 
         // The column of the bell is never behind RIGHT, so no lock stands before it.
@@ -1228,7 +1223,8 @@ public final class TypebarMachine {
         }
 
         private void moveOn() {
-            addTo(RINGS, carriage.advance() ? 1 : 0);
+            carriage.column++;
+            addTo(RINGS, carriage.column == carriage.bellColumn() ? 1 : 0);
         }
 
         int plainKey(int key) {
