@@ -276,7 +276,8 @@ final class ChangeEdges {
     }
 
     private void newPage() {
-        edge.promise(49, "Puts a new page in: all places are empty, and the carriage goes to the line 0 and to the column LEFT; the\n"
+        edge.promise(49, "Puts a new page in: all places are empty, and the carriage goes to the line 0 and to the "
+                + "column LEFT; the\n"
                 + "margins are not released any more (all else stays).");
         TypebarMachine x = Rig.loaded("machine 10 2 0 9 0;speed 50 1 0 0;ribbon 5 9 0;bar a 90");
         Rig.type(x, "aaaaaaaaaa/aaaaaaaaaa^");

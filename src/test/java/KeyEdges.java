@@ -91,7 +91,8 @@ final class KeyEdges {
         int pressed = x.count(13);
         edge.is(what, use.on(x), reason);
         edge.is("nothing else by " + what, still(x), before);
-        edge.is("time, failing and key by " + what, (x.count(2) - time) + " " + (x.count(9) - failed) + " " + (x.count(13) - pressed),
+        edge.is("time, failing and key by " + what, (x.count(2) - time) + " " + (x.count(9) - failed) + " "
+                + (x.count(13) - pressed),
                 x.setting(5) + " 1 1");
     }
 
@@ -144,7 +145,8 @@ final class KeyEdges {
     }
 
     private void letter() {
-        edge.term(3, "Letter key (a bar, with shift or not): reason 1 if bars are jammed; reason 2 if the carriage is locked; reason 4 if\n"
+        edge.term(3, "Letter key (a bar, with shift or not): reason 1 if bars are jammed; reason 2 if the carriage is "
+                + "locked; reason 4 if\n"
                 + "the bar is not back; reason 5 if it jams (below; this changes something).");
         TypebarMachine jam = jammed();
         edge.is("jammed", jam.strike(3, false), 1);
@@ -161,7 +163,8 @@ final class KeyEdges {
         behind("ab", 4, 0, 3, 5);
         behind("ab", 4, 0, 4, 0);
 
-        edge.term(3, "Otherwise the bar is struck: it\nis the latest one that was struck, its letter is printed at the line and the column "
+        edge.term(3, "Otherwise the bar is struck: it\nis the latest one that was struck, its letter is printed at the "
+                + "line and the column "
                 + "of the carriage, and the carriage\ngoes to the next column.");
         TypebarMachine x = Rig.loaded("machine 12 3 0 11 0;speed 20 5 4 10;ribbon 6 5 1;bar a 90;bar b 90");
         x.strike(1, true);
@@ -174,7 +177,8 @@ final class KeyEdges {
     }
 
     private void lock() {
-        edge.term(3, "The carriage is locked if its column is WIDTH, or if its column is greater than RIGHT and the margins are not\nreleased.");
+        edge.term(3, "The carriage is locked if its column is WIDTH, or if its column is greater than RIGHT and the "
+                + "margins are not\nreleased.");
         TypebarMachine x = Rig.plain();
         for (int column = 2; column <= 8; column++) {
             edge.is("at the column " + column, Rig.carriage(x), "0 " + column + " 0 0");
@@ -240,8 +244,10 @@ final class KeyEdges {
     }
 
     private void jamRoom() {
-        edge.term(3, "the difference, without sign, of the times at which both reach the page (the time of the strike plus the rise; of B\n"
-                + "the time of this key) is less than CLEAR (0 to 99) plus the greater one of 0 and NEAR (0 to 99) less the difference\n"
+        edge.term(3, "the difference, without sign, of the times at which both reach the page (the time of the strike "
+                + "plus the rise; of B\n"
+                + "the time of this key) is less than CLEAR (0 to 99) plus the greater one of 0 and NEAR (0 to 99) less "
+                + "the difference\n"
                 + "of both angles (without sign)");
         Texts.bounds(edge, 7, 0, 99);
         Texts.bounds(edge, 8, 0, 99);
@@ -322,7 +328,8 @@ final class KeyEdges {
         edge.is("the two are jammed, no other", "" + x.bar(0, 5) + x.bar(1, 5) + x.bar(2, 5) + x.bar(3, 5), "1100");
         edge.is("strikes", x.bar(0, 3) * 10 + x.bar(1, 3), 10);
         edge.is("the latest one", x.latest(), 0);
-        edge.is("the page, the ribbon, the carriage", Rig.line(x, 0) + Rig.ribbon(x) + Rig.carriage(x), line + ribbon + "0 3 0 0");
+        edge.is("the page, the ribbon, the carriage", Rig.line(x, 0) + Rig.ribbon(x) + Rig.carriage(x),
+                line + ribbon + "0 3 0 0");
         edge.is("counts", Rig.counts(x), "4 2 29 1 0 0 0 0 1 1 0 0 0 2");
         edge.is("b is back as before", x.bar(1, 4), 0);
         TypebarMachine y = Rig.plain();
@@ -356,7 +363,8 @@ final class KeyEdges {
     }
 
     private void bell() {
-        edge.term(3, "Whenever the carriage goes to the next column by a letter key or by space, and its column is RIGHT less BELL then\n"
+        edge.term(3, "Whenever the carriage goes to the next column by a letter key or by space, and its column is "
+                + "RIGHT less BELL then\n"
                 + "(BELL is 0 to RIGHT less LEFT), the bell rings.");
         Texts.bounds(edge, 4, 0, 6);
         rings(0, 8);
@@ -397,7 +405,8 @@ final class KeyEdges {
             } else {
                 x.strike(0, false);
             }
-            edge.is("BELL " + bell + " at the column " + column, x.carriage(1) * 10 + x.count(10), column * 10 + (column >= due ? 1 : 0));
+            edge.is("BELL " + bell + " at the column " + column, x.carriage(1) * 10 + x.count(10),
+                    column * 10 + (column >= due ? 1 : 0));
         }
     }
 
@@ -483,14 +492,16 @@ final class KeyEdges {
     }
 
     private void returning() {
-        edge.term(3, "Return: reason 1; reason 6 if there is no line that is SPACING (1 to 3; 1 at first) greater than its line.");
+        edge.term(3, "Return: reason 1; reason 6 if there is no line that is SPACING (1 to 3; 1 at first) greater than "
+                + "its line.");
         TypebarMachine jam = jammed();
         edge.is("in a jam", jam.press(3), 1);
         jam.press(5);
         edge.is("freed", jam.press(3), 0);
         edge.is("SPACING at first", Rig.plain().setting(12), 1);
-        int[][] cases = {{1, 1, 0, 6}, {2, 1, 0, 0}, {2, 1, 1, 6}, {3, 1, 1, 0}, {3, 1, 2, 6}, {12, 1, 10, 0}, {12, 1, 11, 6}, {2, 2, 0, 6},
-            {3, 2, 0, 0}, {3, 2, 1, 6}, {12, 2, 9, 0}, {12, 2, 10, 6}, {3, 3, 0, 6}, {4, 3, 0, 0}, {12, 3, 8, 0}, {12, 3, 9, 6}, {12, 3, 11, 6}};
+        int[][] cases = {{1, 1, 0, 6}, {2, 1, 0, 0}, {2, 1, 1, 6}, {3, 1, 1, 0}, {3, 1, 2, 6}, {12, 1, 10, 0},
+            {12, 1, 11, 6}, {2, 2, 0, 6}, {3, 2, 0, 0}, {3, 2, 1, 6}, {12, 2, 9, 0}, {12, 2, 10, 6}, {3, 3, 0, 6},
+            {4, 3, 0, 0}, {12, 3, 8, 0}, {12, 3, 9, 6}, {12, 3, 11, 6}};
         for (int[] c : cases) {
             TypebarMachine x = Rig.loaded(Texts.with(1, c[0]));
             Rig.type(x, "/".repeat(c[2]));
@@ -504,7 +515,8 @@ final class KeyEdges {
         edge.refuses("SPACING 4", Check.ARGUMENT, maker, x -> x.set(12, 4));
         edge.is("the lock is no reason", typed("       ").press(3), 0);
 
-        edge.term(3, "Otherwise the carriage goes to that line and to the column LEFT, and the margins are not released any more.");
+        edge.term(3, "Otherwise the carriage goes to that line and to the column LEFT, and the margins are not released "
+                + "any more.");
         TypebarMachine x = typed("^   >>  ");
         edge.is("at WIDTH, released", Rig.carriage(x), "0 12 1 1");
         x.press(3);
@@ -551,15 +563,26 @@ final class KeyEdges {
         x.set(5, 2);
         x.strike(2, false);
         edge.is("c is 7 ahead of b", x.reason() * 10 + x.bar(2, 3), 1);
+        TypebarMachine older = Rig.plain();
+        Rig.type(older, "ba");
+        older.set(5, 4);
+        edge.is("b jams, which was struck before and is back", older.strike(1, false) * 10 + older.bar(1, 4), 50);
+        older.set(6, 99);
+        edge.is("by a greater RISE both are not", older.bar(0, 4) + " " + older.bar(1, 4), "194 174");
+        older.press(5);
+        edge.is("both are back at once", older.bar(0, 4) + older.bar(1, 4), 0);
         TypebarMachine never = Rig.plain();
         never.press(5);
         edge.is("free at first", never.count(2) * 10 + never.count(9) + never.latest(), 1199);
     }
 
     private void place() {
-        edge.term(3, "A place of the page (a line and a column) is empty, as long as no letter was printed there, or it has the letter\n"
-                + "that was printed there latest, and a darkness: that of this letter, plus the one that was there before, but not\nabove 9.");
-        int[][] cases = {{1, 2, 2}, {4, 2, 8}, {5, 2, 9}, {3, 3, 9}, {2, 4, 8}, {2, 5, 9}, {9, 1, 9}, {9, 2, 9}, {8, 2, 9}, {1, 9, 9}, {1, 10, 9}};
+        edge.term(3, "A place of the page (a line and a column) is empty, as long as no letter was printed there, or it "
+                + "has the letter\n"
+                + "that was printed there latest, and a darkness: that of this letter, plus the one that was there "
+                + "before, but not\nabove 9.");
+        int[][] cases = {{1, 2, 2}, {4, 2, 8}, {5, 2, 9}, {3, 3, 9}, {2, 4, 8}, {2, 5, 9}, {9, 1, 9}, {9, 2, 9},
+            {8, 2, 9}, {1, 9, 9}, {1, 10, 9}};
         for (int[] c : cases) {
             TypebarMachine x = Rig.loaded("machine 12 3 2 8 3;speed 20 5 4 10;ribbon 5 " + c[0] + " 0;bar a 90");
             edge.is("empty", x.sign(0, 2) * 10 + x.darkness(0, 2), 320);
@@ -576,7 +599,8 @@ final class KeyEdges {
     }
 
     private void bytes() {
-        edge.term(4, "A letter a to z is the letter key of the bar with this letter; a capital letter A\nto Z is the same with shift");
+        edge.term(4, "A letter a to z is the letter key of the bar with this letter; a capital letter A\nto Z is the "
+                + "same with shift");
         StringBuilder text = new StringBuilder(Texts.with(0, 12));
         for (char letter = 'z'; letter >= 'a'; letter--) {
             text.append(";bar ").append(letter).append(" 90");
@@ -584,7 +608,8 @@ final class KeyEdges {
         for (char letter = 'a'; letter <= 'z'; letter++) {
             TypebarMachine x = Rig.loaded(text.toString());
             Rig.type(x, "" + letter + (char) (letter - 32));
-            edge.is("letter " + letter, Rig.line(x, 0) + x.latest() + x.bar('z' - letter, 3), "  " + letter + (char) (letter - 32) + ('z' - letter) + 2);
+            edge.is("letter " + letter, Rig.line(x, 0) + x.latest() + x.bar('z' - letter, 3),
+                    "  " + letter + (char) (letter - 32) + ('z' - letter) + 2);
         }
         for (char beside : new char[] {'@', '[', '`', '{'}) {
             TypebarMachine x = Rig.loaded(text.toString());
@@ -592,7 +617,8 @@ final class KeyEdges {
         }
 
         edge.term(4, "a space (32) is space; a greater-than sign (62) is tab; a\n"
-                + "less-than sign (60) is back; a slash (47) is return; a caret (94) is release; an exclamation mark (33) is free");
+                + "less-than sign (60) is back; a slash (47) is return; a caret (94) is release; an exclamation mark "
+                + "(33) is free");
         int[] bytes = {32, 62, 60, 47, 94, 33};
         for (int key = 0; key < bytes.length; key++) {
             TypebarMachine x = typed("/   ");
@@ -604,7 +630,8 @@ final class KeyEdges {
     }
 
     private void digits() {
-        edge.term(4, "A digit 0 to 9 is no key: the\ntime becomes greater by ten times the digit (without PACE), and nothing else happens.");
+        edge.term(4, "A digit 0 to 9 is no key: the\ntime becomes greater by ten times the digit (without PACE), and "
+                + "nothing else happens.");
         for (int digit = 0; digit <= 9; digit++) {
             TypebarMachine x = typed("c");
             String before = still(x);
@@ -624,7 +651,8 @@ final class KeyEdges {
     }
 
     private void noKeys() {
-        edge.term(4, "Any other byte, and a letter\nwithout a bar, fails for reason 3 (it is no key: no time passes by it, and no key is counted).");
+        edge.term(4, "Any other byte, and a letter\nwithout a bar, fails for reason 3 (it is no key: no time passes by "
+                + "it, and no key is counted).");
         String keys = " ><^!/0123456789";
         for (int other = 0; other < 256; other++) {
             TypebarMachine x = Rig.loaded(Rig.PLAIN + ";bar y 90");
@@ -681,7 +709,8 @@ final class KeyEdges {
     }
 
     private void type() {
-        edge.promise(43, "Types the first n bytes of the input buffer (section 4), one behind the other, up to the first one that fails,\n"
+        edge.promise(43, "Types the first n bytes of the input buffer (section 4), one behind the other, up to the "
+                + "first one that fails,\n"
                 + "and empties the buffer, whatever stands behind them.");
         String[] lines = {"", "  a", "  aB", "  aB", "  aB a", "  aB a"};
         for (int n = 0; n < lines.length; n++) {
@@ -719,7 +748,8 @@ final class KeyEdges {
         edge.refuses("a text with an error", Check.STATE, Used::withoutByAnError, x -> x.type(0));
         edge.answers("a machine", Used::machineAndKeys, x -> x.type(1));
 
-        edge.promise(43, "Throws `IndexOutOfBoundsException` if n is negative or greater than the number of bytes in the buffer; the buffer stays");
+        edge.promise(43, "Throws `IndexOutOfBoundsException` if n is negative or greater than the number of bytes in "
+                + "the buffer; the buffer stays");
         edge.range("n", Check.INDEX, 0, 20, TypebarMachine::type);
         edge.refuses("one of none", Check.INDEX, Used::machine, x -> x.type(1));
         Edge.Maker full = () -> {

@@ -44,6 +44,7 @@ final class LooksEdges {
         edge.is("the line behind it", typed("abababababa").lineLength(1), 0);
         edge.is("the last line", typed("/   a").lineLength(1), 4);
         edge.is("the line before it", typed("/   a").lineLength(0), 0);
+        edge.is("the line before a full one", typed("/ababababab").lineLength(0), 0);
         TypebarMachine pale = typed("a");
         dry(pale);
         Rig.type(pale, "  a");
@@ -75,18 +76,21 @@ final class LooksEdges {
         edge.is("a full line", typed("ababababab").words(0), 1);
         edge.is("a full line and the begin of the next one", typed("ababababab/a").words(1), 1);
         edge.is("the end of a line and an empty one", typed("         a").words(1), 0);
+        edge.is("an empty line ahead of a full one", typed("/ababababab").words(0), 0);
         edge.promise(21, NO_LINE);
         edge.range("line", Check.INDEX, 0, 2, TypebarMachine::words);
     }
 
     private void letters() {
-        edge.promise(22, "Returns at how many places of the page there is a letter, a byte a to z or A to Z (capital letters are others); "
+        edge.promise(22, "Returns at how many places of the page there is a letter, a byte a to z or A to Z (capital "
+                + "letters are others); "
                 + "0 for other numbers.");
         TypebarMachine x = Rig.loaded("machine 10 2 0 9 0;speed 50 1 0 0;ribbon 5 9 0;bar a 90;bar z 90");
         edge.is("an empty page", x.letters('a') + x.letters(32), 0);
         Rig.type(x, "aaazzAAAAZ/aZZ      z");
         edge.is("a, z, A, Z", x.letters('a') + " " + x.letters('z') + " " + x.letters('A') + " " + x.letters('Z'), "4 3 4 3");
-        for (int other : new int[] {32, 0, -1, 'a' - 1, 'z' + 1, 'A' - 1, 'Z' + 1, 'b', 'B', 'a' + 256, Integer.MIN_VALUE, Integer.MAX_VALUE}) {
+        for (int other : new int[] {32, 0, -1, 'a' - 1, 'z' + 1, 'A' - 1, 'Z' + 1, 'b', 'B', 'a' + 256, Integer.MIN_VALUE,
+                Integer.MAX_VALUE}) {
             edge.is("number " + other, x.letters(other), 0);
         }
         TypebarMachine full = typed("aaaaaaaaaa/aaaaaaaaaa");
@@ -96,9 +100,14 @@ final class LooksEdges {
     }
 
     private void palest() {
-        edge.promise(23, "Returns WIDTH times the line plus the column of the place with the least darkness, of those that are not empty, "
+        edge.promise(23, "Returns WIDTH times the line plus the column of the place with the least darkness, of those "
+                + "that are not empty, "
                 + "of several the first one; NONE if all are empty.");
         edge.is("all are empty", small().palest(), -1);
+        edge.is("all places of the greatest page are empty", Rig.loaded(Texts.with(0, 40, 1, 12)).palest(), -1);
+        TypebarMachine great = Rig.loaded("machine 40 12 38 39 0" + Texts.TAIL + ";bar a 90");
+        Rig.type(great, "///////////> <a");
+        edge.is("the last place of the greatest page alone", great.palest(), 479);
         edge.is("the first place alone", typed("a").palest(), 0);
         edge.is("the last place alone", typed("/         a").palest(), 19);
         edge.is("the end of the first line", typed("         a/a").palest(), 9);
@@ -121,7 +130,8 @@ final class LooksEdges {
     }
 
     private void meanDarkness() {
-        edge.promise(24, "Returns the sum of the darkness of all places that are not empty, converted to double, divided by their number, "
+        edge.promise(24, "Returns the sum of the darkness of all places that are not empty, converted to double, "
+                + "divided by their number, "
                 + "converted to double; 0.0 if there are none.");
         edge.is("there are none", small().meanDarkness(), 0.0);
         edge.is("one", typed("a").meanDarkness(), 9.0);

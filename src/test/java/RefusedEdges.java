@@ -147,7 +147,8 @@ final class RefusedEdges {
     }
 
     private void nothingChanged() {
-        edge.term(6, "A call of\na method that throws an exception changes nothing, except that load, by IllegalArgumentException, empties the input\n"
+        edge.term(6, "A call of\na method that throws an exception changes nothing, except that load, by "
+                + "IllegalArgumentException, empties the input\n"
                 + "buffer and sets parseError() and errorPosition().");
         edge.refuses("load of too many bytes", Check.INDEX, Used::machineAndKeys, x -> x.load(21));
         edge.refusesLoad("load of a text with an error", Used::machineAndKeys, x -> x.load(20));
@@ -169,7 +170,8 @@ final class RefusedEdges {
     }
 
     private void calls512() {
-        edge.begin("What it is", "An object is used for at most 512 calls after it has been made; what later calls answer is free.");
+        edge.begin("What it is", "An object is used for at most 512 calls after it has been made; what later calls "
+                + "answer is free.");
         TypebarMachine x = Rig.plain();
         // An append for twenty bytes, and the load.
         int made = (Rig.PLAIN.length() + 19) / 20 + 1;

@@ -136,7 +136,8 @@ final class StateEdges {
     }
 
     private void setting() {
-        edge.promise(8, "0 WIDTH, 1 LINES, 2 LEFT, 3 RIGHT, 4 BELL, 5 PACE, 6 RISE, 7 CLEAR, 8 NEAR, 9 LENGTH, 10 INK, 11 WEAR, 12 SPACING");
+        edge.promise(8, "0 WIDTH, 1 LINES, 2 LEFT, 3 RIGHT, 4 BELL, 5 PACE, 6 RISE, 7 CLEAR, 8 NEAR, 9 LENGTH, 10 INK, "
+                + "11 WEAR, 12 SPACING");
         edge.is("the least ones", Rig.settings(Rig.loaded("machine 10 1 0 1 0;speed 1 1 0 0;ribbon 5 1 0")),
                 "10 1 0 1 0 1 1 0 0 5 1 0 1");
         TypebarMachine x = Rig.loaded("machine 40 12 38 39 1;speed 999 99 99 99;ribbon 60 9 3");
@@ -148,7 +149,8 @@ final class StateEdges {
     }
 
     private void carriage() {
-        edge.promise(9, "0 its line, 1 its column, 2 1 if it is locked, otherwise 0, 3 1 if the margins are released, otherwise 0");
+        edge.promise(9, "0 its line, 1 its column, 2 1 if it is locked, otherwise 0, 3 1 if the margins are released, "
+                + "otherwise 0");
         TypebarMachine x = Rig.plain();
         edge.is("at first", Rig.carriage(x), "0 2 0 0");
         Rig.type(x, "//      ");
@@ -211,7 +213,8 @@ final class StateEdges {
             boolean isCapital = letter >= 'A' && letter <= 'Z';
             edge.is("letter " + letter, all.barOf(letter), isSmall ? 'z' - letter : isCapital ? 'Z' - letter : -1);
         }
-        for (int other : new int[] {'a' + 256, 'A' - 256, 'z' + 65536, Integer.MIN_VALUE, Integer.MAX_VALUE, Integer.MIN_VALUE + 'a'}) {
+        for (int other : new int[] {'a' + 256, 'A' - 256, 'z' + 65536, Integer.MIN_VALUE, Integer.MAX_VALUE,
+                Integer.MIN_VALUE + 'a'}) {
             edge.is("number " + other, all.barOf(other), -1);
         }
         TypebarMachine some = Rig.plain();
@@ -249,7 +252,8 @@ final class StateEdges {
         edge.answers("place 59 of 60", () -> Rig.loaded(Texts.with(9, 60)), x -> x.ribbon(59));
         edge.refuses("place 60 of 60", Check.INDEX, () -> Rig.loaded(Texts.with(9, 60)), x -> x.ribbon(60));
 
-        edge.promise(14, "0 the place at the head, 1 1 if it runs forward, otherwise 0, 2 all ink together, 3 places without ink");
+        edge.promise(14, "0 the place at the head, 1 1 if it runs forward, otherwise 0, 2 all ink together, 3 places "
+                + "without ink");
         TypebarMachine x = Rig.loaded("machine 20 1 0 19 0;speed 50 1 0 0;ribbon 5 2 2;bar a 90");
         String[] due = {"0 1 10 0", "1 1 8 1", "2 1 6 2", "3 1 4 3", "4 1 2 4", "4 0 0 5", "3 0 0 5", "2 0 0 5", "1 0 0 5",
             "0 0 0 5", "0 1 0 5", "1 1 0 5"};
@@ -258,6 +262,9 @@ final class StateEdges {
             edge.is("after letters " + letters, told, due[letters]);
             x.strike(0, false);
         }
+
+        TypebarMachine most = Rig.loaded(Texts.with(9, 60, 10, 9));
+        edge.is("the greatest ribbon", most.head(2) + " " + most.head(3), "540 0");
 
         edge.promise(14, OUT_OF_RANGE);
         edge.range("head", Check.ARGUMENT, 0, 3, TypebarMachine::head);
@@ -268,7 +275,8 @@ final class StateEdges {
         TypebarMachine x = Rig.loaded("machine 10 2 0 9 0;speed 50 1 0 0;ribbon 5 9 0;bar a 90;bar z 90");
         edge.is("empty", x.sign(0, 0), 32);
         Rig.type(x, "a        Z/Z        a");
-        edge.is("the corners", "" + (char) x.sign(0, 0) + (char) x.sign(0, 9) + (char) x.sign(1, 0) + (char) x.sign(1, 9), "aZZa");
+        edge.is("the corners", "" + (char) x.sign(0, 0) + (char) x.sign(0, 9) + (char) x.sign(1, 0) + (char) x.sign(1, 9),
+                "aZZa");
         edge.is("beside them", x.sign(0, 1) + x.sign(0, 8) + x.sign(1, 1) + x.sign(1, 8), 128);
 
         edge.promise(16, "Returns the darkness at a place of the page; 0 if it is empty.");
@@ -298,7 +306,8 @@ final class StateEdges {
     }
 
     private void reason() {
-        edge.promise(18, "Returns the reason for which the latest key failed, or the latest text to type stopped; 0 if it did not "
+        edge.promise(18, "Returns the reason for which the latest key failed, or the latest text to type stopped; 0 if "
+                + "it did not "
                 + "(also for a text of 0 bytes), or if there was none.");
         TypebarMachine x = Rig.plain();
         edge.is("there was none", x.reason(), 0);
@@ -326,7 +335,8 @@ final class StateEdges {
     }
 
     private void reasonAt() {
-        edge.promise(19, "Returns the index of the byte at which the latest text to type stopped; NONE if it did not, if there was none, "
+        edge.promise(19, "Returns the index of the byte at which the latest text to type stopped; NONE if it did not, "
+                + "if there was none, "
                 + "or if a key was pressed by itself since then.");
         TypebarMachine x = Rig.plain();
         edge.is("there was none", x.reasonAt(), -1);

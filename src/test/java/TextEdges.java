@@ -101,6 +101,15 @@ final class TextEdges {
                 + "LENGTH INK WEAR {\";\" line}");
         takes(HEAD, 0);
         takes(HEAD + ";tab 0", 0);
+        for (String other : new String[] {"nachine", "machinf", "macine", "machin", "machinem", "speed", "m"}) {
+            refuses("@" + other + HEAD.substring(7), 1);
+        }
+        for (String other : new String[] {"tpeed", "speee", "sped", "spee", "speeds", "ribbon", "s"}) {
+            refuses("machine 12 3 2 8 3;@" + other + " 20 5 4 10;ribbon 6 5 1", 1);
+        }
+        for (String other : new String[] {"sibbon", "ribboo", "rbbon", "ribbo", "ribbons", "tab", "r"}) {
+            refuses("machine 12 3 2 8 3;speed 20 5 4 10;@" + other + " 6 5 1", 1);
+        }
         refuses(HEAD + ";@", 1);
         refuses(HEAD + ";tab 0;@", 1);
         refuses(HEAD + " @2", 1);
@@ -118,10 +127,12 @@ final class TextEdges {
         refuses(HEAD + ";bar a 0 @0", 1);
         refuses(HEAD + ";tab@", 1);
         refuses(HEAD + ";tab 0 @0", 1);
-        refuses(HEAD + ";@ba a 0", 1);
-        refuses(HEAD + ";@bars a 0", 1);
-        refuses(HEAD + ";@ta 0", 1);
-        refuses(HEAD + ";@tabs 0", 1);
+        for (String other : new String[] {"ba", "bars", "car", "bbr", "bas", "b", "a", "ribbon"}) {
+            refuses(HEAD + ";@" + other + " a 0", 1);
+        }
+        for (String other : new String[] {"ta", "tabs", "uab", "tbb", "tac", "t", "machine"}) {
+            refuses(HEAD + ";@" + other + " 0", 1);
+        }
 
         edge.term(5, "LETTER is a word of one letter, COLUMN is 0 to WIDTH less 1.");
         takes(HEAD + ";bar a 0;bar z 0", 2);
@@ -165,6 +176,8 @@ final class TextEdges {
         cut("machine", " 12 3 2 8 3" + Texts.TAIL);
         cut("machine 1", "2 3 2 8 3" + Texts.TAIL, 8, 2);
         cut(HEAD + ";", "tab 5");
+        cut(HEAD + ";bar", "s a 5");
+        cut(HEAD + ";bar a", "b 5");
         cut(HEAD + ";bar a ", "5");
         cut("", HEAD);
     }
@@ -289,7 +302,8 @@ final class TextEdges {
     }
 
     private void append() {
-        edge.promise(2, "Appends twenty bytes to the input buffer: the four bytes of each argument in order, the most significant byte\n"
+        edge.promise(2, "Appends twenty bytes to the input buffer: the four bytes of each argument in order, the most "
+                + "significant byte\n"
                 + "first.");
         StringBuilder text = new StringBuilder(Texts.with(0, 12));
         for (char letter = 'a'; letter <= 't'; letter++) {
@@ -310,7 +324,8 @@ final class TextEdges {
         signs.append(-1, 0, Integer.MIN_VALUE, Integer.MAX_VALUE, 0x80808080);
         edge.is("bytes of negative numbers are bytes", signs.buffered() * 100 + signs.type(20) * 10 + signs.reason(), 2003);
 
-        String[] bullets = {"`a`: bytes 0 to 3", "`b`: bytes 4 to 7", "`c`: bytes 8 to 11", "`d`: bytes 12 to 15", "`e`: bytes 16 to 19"};
+        String[] bullets = {"`a`: bytes 0 to 3", "`b`: bytes 4 to 7", "`c`: bytes 8 to 11", "`d`: bytes 12 to 15",
+                "`e`: bytes 16 to 19"};
         for (int i = 0; i < 5; i++) {
             edge.promise(2, bullets[i]);
             int[] given = {0x5e5e5e5e, 0x5e5e5e5e, 0x5e5e5e5e, 0x5e5e5e5e, 0x5e5e5e5e};
@@ -320,7 +335,8 @@ final class TextEdges {
             edge.is("the last byte of it", keysAhead(given), 4 * i + 3);
         }
 
-        edge.promise(2, "Returns the number of bytes in the buffer; NONE if there would be more than 500, in which case nothing is appended.");
+        edge.promise(2, "Returns the number of bytes in the buffer; NONE if there would be more than 500, in which case "
+                + "nothing is appended.");
         TypebarMachine x = new TypebarMachine();
         for (int times = 1; times <= 25; times++) {
             edge.is("append " + times, x.append(0, 0, 0, 0, 0), 20 * times);
@@ -341,7 +357,8 @@ final class TextEdges {
     }
 
     private void load() {
-        edge.promise(3, "Parses the first n bytes of the input buffer as a machine and empties the buffer, even if the parse fails.");
+        edge.promise(3, "Parses the first n bytes of the input buffer as a machine and empties the buffer, even if the "
+                + "parse fails.");
         TypebarMachine all = new TypebarMachine();
         Rig.feed(all, HEAD + " ".repeat(20 - HEAD.length() % 20));
         edge.is("all bytes", all.load(all.buffered()) + all.buffered(), 0);
@@ -355,7 +372,8 @@ final class TextEdges {
         TypebarMachine none = new TypebarMachine();
         Rig.feed(none, HEAD);
         edge.is("0 bytes", tryToLoad(none, 0), false);
-        edge.is("their error and the buffer then", none.parseError() + " at " + none.errorPosition() + ", " + none.buffered(), "1 at 0, 0");
+        edge.is("their error", none.parseError() + " at " + none.errorPosition(), "1 at 0");
+        edge.is("the buffer then", none.buffered(), 0);
         TypebarMachine empty = new TypebarMachine();
         edge.is("0 bytes of an empty buffer", tryToLoad(empty, 0), false);
         edge.is("their error", empty.parseError() + " at " + empty.errorPosition(), "1 at 0");
@@ -371,7 +389,8 @@ final class TextEdges {
     }
 
     private void loadedAnew() {
-        edge.promise(3, "On success the machine replaces the previous one, the page is empty, nothing was typed, nothing can be undone, and\n"
+        edge.promise(3, "On success the machine replaces the previous one, the page is empty, nothing was typed, "
+                + "nothing can be undone, and\n"
                 + "no state is saved.");
         String fresh = Rig.all(Rig.plain());
         TypebarMachine x = Used.machine();
@@ -392,6 +411,16 @@ final class TextEdges {
         edge.is("a jam", Rig.type(jam, "ab") * 10 + jam.reason(), 15);
         Rig.load(jam, Rig.PLAIN);
         edge.is("no jam behind it", Rig.all(jam), fresh);
+        TypebarMachine tried = Used.machineAndKeys();
+        tried.wouldType(20, 0);
+        tried.paceFor(20);
+        tried.type(0);
+        Rig.feed(tried, "aaaaaaa/c c?");
+        tried.wouldType(12, 0);
+        tried.printsLeft();
+        tried.type(0);
+        Rig.load(tried, Rig.PLAIN);
+        edge.is("what would have been typed was not", Rig.all(tried), fresh);
         Rig.load(x, "machine 10 1 0 1 0;speed 1 1 0 0;ribbon 5 1 0");
         edge.is("a smaller machine: its settings", Rig.settings(x), "10 1 0 1 0 1 1 0 0 5 1 0 1");
         edge.is("its counts", Rig.counts(x), "0 0 0 0 0 0 0 0 0 0 0 0 0 0");

@@ -27,7 +27,8 @@ final class UndoEdges {
     }
 
     private void changes() {
-        edge.term(6, "The methods that are documented as changes can be undone, the latest one first; each call of one of them that\n"
+        edge.term(6, "The methods that are documented as changes can be undone, the latest one first; each call of one "
+                + "of them that\n"
                 + "succeeds (a key that fails, too) is a change, even if nothing is different then.");
         TypebarMachine x = Rig.plain();
         List<String> past = new ArrayList<>();
@@ -46,8 +47,9 @@ final class UndoEdges {
 
     private void eachUndone() {
         edge.term(6, "changes (each can be undone, the latest one first)");
-        Edge.Use[] uses = {y -> y.strike(0, true), y -> y.press(5), y -> y.type(20), y -> y.setStop(0, true), y -> y.setMargin(true, 11),
-            y -> y.set(8, 99), y -> y.rest(9999), TypebarMachine::newRibbon, TypebarMachine::newPage};
+        Edge.Use[] uses = {y -> y.strike(0, true), y -> y.press(5), y -> y.type(20), y -> y.setStop(0, true),
+            y -> y.setMargin(true, 11), y -> y.set(8, 99), y -> y.rest(9999), TypebarMachine::newRibbon,
+            TypebarMachine::newPage};
         for (int first = 0; first + 1 < uses.length; first++) {
             TypebarMachine x = Used.machineAndKeys();
             String before = Rig.all(x);
@@ -144,7 +146,8 @@ final class UndoEdges {
     }
 
     private void undo() {
-        edge.promise(50, "Undoes the latest change that has not been undone; the input buffer and the text that was written stay, all else\n"
+        edge.promise(50, "Undoes the latest change that has not been undone; the input buffer and the text that was "
+                + "written stay, all else\n"
                 + "(reason() and reasonAt(), too) is as before the change.");
         TypebarMachine x = Used.machine();
         String before = Rig.all(x);
@@ -221,7 +224,8 @@ final class UndoEdges {
         x.rest(9999);
         edge.is("later", x.save(1), 9999);
 
-        edge.promise(52, "Saves the machine with all that is told of it (but the input buffer, parseError(), errorPosition() and what can\n"
+        edge.promise(52, "Saves the machine with all that is told of it (but the input buffer, parseError(), "
+                + "errorPosition() and what can\n"
                 + "be undone) in a slot");
         for (int slot = 0; slot <= 1; slot++) {
             TypebarMachine y = Used.machine();

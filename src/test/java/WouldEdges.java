@@ -2,7 +2,8 @@
 final class WouldEdges {
 
     private static final String NO_BAR = "Throws `IndexOutOfBoundsException` if there is no such bar";
-    private static final String NO_BYTES = "Throws `IndexOutOfBoundsException` if n is negative or greater than the number of bytes in the buffer";
+    private static final String NO_BYTES = "Throws `IndexOutOfBoundsException` if n is negative or greater than the "
+            + "number of bytes in the buffer";
 
     // Rises 30, 30, 30, 31, 39, 39.
     private static final String SLOW = "machine 12 3 2 8 3;speed 500 30 4 12;ribbon 6 5 1;"
@@ -58,7 +59,8 @@ final class WouldEdges {
     }
 
     private void freeIn() {
-        edge.promise(30, "Returns the least PACE, from 1 on, with which the letter key of a bar, pressed now, would fail neither for reason 4 "
+        edge.promise(30, "Returns the least PACE, from 1 on, with which the letter key of a bar, pressed now, would "
+                + "fail neither for reason 4 "
                 + "nor for reason 5 (whatever jams and locks there are); NONE if there is none up to 999.");
         edge.is("from 1 on", Rig.loaded(SLOW).freeIn(0), 1);
         // By the bounds of RISE and of an angle 216 is the greatest, so that there is one up to 999 always.
@@ -102,7 +104,8 @@ final class WouldEdges {
 
     private void paceOf() {
         edge.promise(31, "Returns the least PACE, from 1 on, with which the second bar, struck one key behind the first one "
-                + "(nothing else was struck), would neither jam nor, if it is the same bar, not be back; NONE if there is none up to 999.");
+                + "(nothing else was struck), would neither jam nor, if it is the same bar, not be back; NONE if there "
+                + "is none up to 999.");
         TypebarMachine x = Rig.loaded(SLOW);
         edge.is("from 1 on", Rig.plain().paceOf(0, 2), 1);
         edge.is("the same bar", x.paceOf(0, 0) + " " + x.paceOf(3, 3) + " " + x.paceOf(4, 4), "60 62 78");
@@ -140,16 +143,20 @@ final class WouldEdges {
     }
 
     private void worstPair() {
-        edge.promise(32, "Returns 100 times the first bar plus the second one of the pair for which paceOf() of the first and the second one is "
-                + "greatest (NONE counts as 1000), of several the one with the smallest first bar, then with the smallest second one; "
+        edge.promise(32, "Returns 100 times the first bar plus the second one of the pair for which paceOf() of the "
+                + "first and the second one is "
+                + "greatest (NONE counts as 1000), of several the one with the smallest first bar, then with the "
+                + "smallest second one; "
                 + "NONE without bars.");
         String head = Texts.with(6, 5);
         edge.is("no bars", Rig.loaded(head).worstPair(), -1);
         edge.is("one bar", Rig.loaded(head + ";bar a 90").worstPair(), 0);
+        edge.is("one bar, with CLEAR 99", Rig.loaded(Texts.with(7, 99) + ";bar a 90").worstPair(), 0);
         edge.is("of several the smallest first bar", Rig.loaded(head + ";bar a 90;bar b 89").worstPair(), 0);
         edge.is("a greater one behind it", Rig.loaded(head + ";bar a 90;bar b 80").worstPair(), 101);
         edge.is("a greater one before it", Rig.loaded(head + ";bar a 80;bar b 90").worstPair(), 0);
-        edge.is("of several the smallest second bar", Rig.loaded(Texts.with(7, 99) + ";bar a 90;bar b 0;bar c 0").worstPair(), 100);
+        edge.is("of several the smallest second bar", Rig.loaded(Texts.with(7, 99)
+                + ";bar a 90;bar b 0;bar c 0").worstPair(), 100);
         edge.is("the last bar with itself", Rig.loaded(head + ";bar a 90;bar b 90;bar c 0").worstPair(), 202);
         // a overtakes b where it is struck at 1, and jams with it until 4 more than the difference of the rises.
         edge.is("two bars", Rig.loaded(Texts.with(6, 1, 7, 99) + ";bar a 90;bar b 0").worstPair(), 100);
@@ -196,7 +203,8 @@ final class WouldEdges {
     }
 
     private void wouldTypeWhat() {
-        edge.promise(33, "0 keys and digits that are done, 1 the reason for which it stops (0 if it does not), 2 the column then, 3 the line then");
+        edge.promise(33, "0 keys and digits that are done, 1 the reason for which it stops (0 if it does not), 2 the "
+                + "column then, 3 the line then");
         typing("//", "2 0 2 2 0 0");
         typing("///", "2 6 2 2 0 0");
         typing("cc", "1 4 3 0 0 5");
@@ -248,7 +256,8 @@ final class WouldEdges {
     }
 
     private void paceFor() {
-        edge.promise(34, "Returns the least PACE, from 1 on, with which typing the first n bytes of the input buffer would stop neither for "
+        edge.promise(34, "Returns the least PACE, from 1 on, with which typing the first n bytes of the input buffer "
+                + "would stop neither for "
                 + "reason 4 nor for reason 5 (for others it may); NONE if there is none up to 300.");
         pace("", 1);
         pace("a", 1);
@@ -298,7 +307,8 @@ final class WouldEdges {
     }
 
     private void keysTo() {
-        edge.promise(35, "Returns the fewest keys, of space, tab and back, that bring the carriage to a column of its line, 0 if it is there; "
+        edge.promise(35, "Returns the fewest keys, of space, tab and back, that bring the carriage to a column of its "
+                + "line, 0 if it is there; "
                 + "NONE if none do (a jam does not matter, the lock does).");
         TypebarMachine x = Rig.plain();
         edge.is("at LEFT", keys(x), "-1 -1 0 1 2 1 2 3 4 3 2 -1 -1");
@@ -315,10 +325,13 @@ final class WouldEdges {
         Rig.type(jam, "ab");
         edge.is("in a jam", jam.reason() + ": " + keys(jam), "5: -1 -1 1 0 1 1 2 3 4 3 2 -1 -1");
         TypebarMachine last = Rig.loaded("machine 12 3 0 11 0" + Texts.TAIL);
-        edge.is("from the first to the last column and behind it", last.keysTo(0) + " " + last.keysTo(11) + " " + last.keysTo(12), "0 1 2");
+        edge.is("from the first to the last column and behind it", last.keysTo(0) + " " + last.keysTo(11) + " "
+                + last.keysTo(12), "0 1 2");
         TypebarMachine wide = Rig.loaded("machine 40 3 0 39 0" + Texts.TAIL);
         Rig.type(wide, "> ");
         edge.is("the longest way", wide.keysTo(0), 40);
+        wide.press(3);
+        edge.is("from the first column behind the last one of 40", wide.keysTo(40), 2);
         TypebarMachine before = Rig.loaded("machine 12 3 2 8 0" + Texts.TAIL);
         Rig.type(before, "^<");
         edge.is("before LEFT, released", keys(before), "1 0 1 2 3 4 3 2 1 2 3 4 5");
@@ -340,7 +353,8 @@ final class WouldEdges {
     }
 
     private void printsLeft() {
-        edge.promise(36, "Returns how many more letters could be printed with a darkness above 0, one behind the other, until one is printed with "
+        edge.promise(36, "Returns how many more letters could be printed with a darkness above 0, one behind the other, "
+                + "until one is printed with "
                 + "the darkness 0; NONE if it is never so.");
         prints(5, 1, 0, -1);
         prints(5, 1, 1, 5);

@@ -24,7 +24,8 @@ final class WrittenEdges {
     }
 
     private void writeLine() {
-        edge.promise(37, "Writes a line as a text that replaces the text that was written before: its letters, a space for an empty\nplace,\n"
+        edge.promise(37, "Writes a line as a text that replaces the text that was written before: its letters, a space "
+                + "for an empty\nplace,\n"
                 + "up to the last one that is not empty.");
         line("", 0, "");
         line("a", 0, "a");
@@ -34,6 +35,7 @@ final class WrittenEdges {
         line("azAZazAZaz", 1, "");
         line("/         z", 1, "         z");
         line("/         z", 0, "");
+        line("/azAZ", 0, "");
 
         edge.promise(37, NO_LINE);
         edge.range("line", Check.INDEX, 0, 2, TypebarMachine::writeLine);
@@ -51,7 +53,8 @@ final class WrittenEdges {
     }
 
     private void writeShades() {
-        edge.promise(38, "Writes the darkness of the places of a line as a text that replaces the text that was written before: a digit\n"
+        edge.promise(38, "Writes the darkness of the places of a line as a text that replaces the text that was written "
+                + "before: a digit\n"
                 + "for each one that is not empty, a space for an empty one, up to the last one that is not empty.");
         shades("", 0, "");
         shades("a", 0, "9");
@@ -60,6 +63,7 @@ final class WrittenEdges {
         shades("aaaaaaaaaa", 0, "9999999999");
         shades("aaaaaaaaaa", 1, "");
         shades("/         a", 1, "         9");
+        shades("/aaaaaaaaaa", 0, "");
         TypebarMachine pale = Rig.loaded("machine 12 2 0 11 0;speed 50 1 0 0;ribbon 5 1 1;bar a 90");
         Rig.type(pale, "aaaa a aa a");
         edge.is("the darkness 0 is a digit, too", pale.writeShades(0), 11);
@@ -81,7 +85,8 @@ final class WrittenEdges {
 
     private void writeRuler() {
         edge.promise(39, "for each column, 0 to WIDTH less 1,\n"
-                + "the first of these that applies: V (86) where the carriage is, L (76) for LEFT, R (82) for RIGHT, T (84) for a\n"
+                + "the first of these that applies: V (86) where the carriage is, L (76) for LEFT, R (82) for RIGHT, T "
+                + "(84) for a\n"
                 + "tab stop, a point (46).");
         ruler("machine 10 1 0 9 0" + Texts.TAIL, "", "V........R");
         ruler("machine 10 1 0 9 0" + Texts.TAIL, " ", "LV.......R");
@@ -95,7 +100,8 @@ final class WrittenEdges {
         ruler("machine 12 3 2 8 3" + Texts.TAIL + ";tab 2;tab 8;tab 5;tab 11", ">>>", "..L..T..R..V");
         TypebarMachine x = Rig.plain();
         x.writeRuler();
-        edge.is("the bytes themselves", x.textByte(2) + " " + x.textByte(8) + " " + x.textByte(5) + " " + x.textByte(0), "86 82 84 46");
+        edge.is("the bytes themselves", x.textByte(2) + " " + x.textByte(8) + " " + x.textByte(5) + " " + x.textByte(0),
+                "86 82 84 46");
         x.press(0);
         x.writeRuler();
         edge.is("the byte of LEFT", x.textByte(2), 76);
