@@ -49,6 +49,16 @@ final class Doc {
         return plain(sections.getOrDefault(section, "")).contains(plain(words));
     }
 
+    /** Whether the words stand in any section. */
+    boolean says(String words) {
+        return sections.keySet().stream().anyMatch(section -> says(section, words));
+    }
+
+    /** Whether any section has words of this pattern. */
+    boolean has(Pattern words) {
+        return sections.values().stream().anyMatch(said -> words.matcher(plain(said)).find());
+    }
+
     Iterable<String> sections() {
         return sections.keySet();
     }
